@@ -16,6 +16,8 @@ public final class BenchMemories {
     private static final int EVENINGS = 12;
 
     private static final int GO = 0, SIT = 1, CHANGE = 2, CONFESS = 3, CUSHION = 4, EVENING = 5;
+    /** Why an act can not be. */
+    private static final int NO_WAY = 1, CUSHIONED = 2, NOTHING = 3, NOT_TOGETHER = 4, NO_MORE_DAYS = 5;
     private static final int ALLOWED = 0;
 
     private final Garden garden = new Garden();
@@ -530,6 +532,7 @@ public final class BenchMemories {
             return memoryAt(ON_BENCH + bench);
         }
 
+        /** Who has none, or where none lies: NONE. A one's place is his own number. */
         private int memoryAt(int place) {
             for (int memory = 0; memory < MEMORIES; memory++) {
                 if (places.at(memory) == place) {
@@ -552,6 +555,7 @@ public final class BenchMemories {
             places.put(memory, one);
         }
 
+        /** NONE can be told too: then nothing changes. */
         void makeNowhere(int memory) {
             places.put(memory, NONE);
         }
@@ -580,27 +584,28 @@ public final class BenchMemories {
         /** The least reason why an act can not be, or ALLOWED; target is a bench or another one. */
         int whyNot(int act, int one, int target) {
             switch (act) {
-                case GO: return has(ways.at(benchOf(one)), target) ? ALLOWED : 1;
+                case GO: return has(ways.at(benchOf(one)), target) ? ALLOWED : NO_WAY;
                 case SIT: return whyNotSit(one);
                 case CHANGE: return whyNotChange(one, target);
-                case CONFESS: return heldBy(one) == NONE ? 3 : ALLOWED;
-                case EVENING: return day >= LAST_DAY ? 5 : ALLOWED;
+                case CONFESS: return memoryAt(one) == NONE ? NOTHING : ALLOWED;
+                case EVENING: return day >= LAST_DAY ? NO_MORE_DAYS : ALLOWED;
                 default: return ALLOWED;
             }
         }
 
         private int whyNotSit(int one) {
-            if (hasCushion(benchOf(one))) {
-                return 2;
+            int bench = benchOf(one);
+            if (hasCushion(bench)) {
+                return CUSHIONED;
             }
-            return heldBy(one) == NONE && lyingOn(benchOf(one)) == NONE ? 3 : ALLOWED;
+            return memoryAt(one) == NONE && memoryAt(ON_BENCH + bench) == NONE ? NOTHING : ALLOWED;
         }
 
         private int whyNotChange(int one, int other) {
-            if (heldBy(one) == NONE && heldBy(other) == NONE) {
-                return 3;
+            if (memoryAt(one) == NONE && memoryAt(other) == NONE) {
+                return NOTHING;
             }
-            return one == other || benchOf(one) != benchOf(other) ? 4 : ALLOWED;
+            return one == other || benchOf(one) != benchOf(other) ? NOT_TOGETHER : ALLOWED;
         }
 
         /** Does an act that can be. */
@@ -609,7 +614,7 @@ public final class BenchMemories {
                 case GO: standAt(one, target); break;
                 case SIT: sitDown(one); break;
                 case CHANGE: swap(one, target); break;
-                case CONFESS: makeNowhere(heldBy(one)); break;
+                case CONFESS: makeNowhere(memoryAt(one)); break;
                 case CUSHION: cushions ^= 1 << target; break;
                 case EVENING: endDay(); break;
                 default: break;
@@ -617,10 +622,11 @@ public final class BenchMemories {
         }
 
         private void sitDown(int one) {
-            int left = heldBy(one);
-            int got = lyingOn(benchOf(one));
+            int bench = benchOf(one);
+            int left = memoryAt(one);
+            int got = memoryAt(ON_BENCH + bench);
             if (left != NONE) {
-                putOn(left, benchOf(one), FRESHEST);
+                putOn(left, bench, FRESHEST);
             }
             if (got != NONE) {
                 putWith(got, one);
@@ -628,8 +634,8 @@ public final class BenchMemories {
         }
 
         private void swap(int one, int other) {
-            int mine = heldBy(one);
-            int theirs = heldBy(other);
+            int mine = memoryAt(one);
+            int theirs = memoryAt(other);
             if (mine != NONE) {
                 putWith(mine, other);
             }
@@ -809,6 +815,7 @@ public final class BenchMemories {
         }
 
         private void countHand(int memory) {
+            // who came to remember nothing has NONE, for which the row has no cell
             handsOf.put(memory, handsOf.at(memory) + 1);
         }
 
@@ -1105,6 +1112,7 @@ public final class BenchMemories {
         private void countHolders(int sittings) {
             holders.fillWith(0);
             for (int i = 0; i < count; i++) {
+                // on the bench it is NONE's, for whom the row has no cell
                 int holder = holder(codes.at(i) / 10, codes.at(i) % 10, sittings);
                 holders.put(holder, holders.at(holder) + 1);
             }
