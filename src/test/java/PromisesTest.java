@@ -337,6 +337,9 @@ public final class PromisesTest {
         judged(x, "A!B!AxB", 2, 3, STATE);
         judged(x, "A!AxB", 1, 4, STATE);
         judged(x, "C2", 0, 1, STATE);
+        x.lay(8, 3, 9);
+        judged(x, "D!D_D_D_D_", NONE, NONE, 4);
+        judged(x, "D!D_D!D_", 3, 3, STATE);
         days(x, 98);
         judged(x, ".", NONE, NONE, 0);
         judged(x, "..", 1, 5, STATE);
@@ -708,6 +711,15 @@ public final class PromisesTest {
         x.seen(0, 7, true);
         is("24 of one", x.ask(0), 0);
         is("24 of one, left", x.ask(1), 1);
+        x.clear();
+        x.seen(20, 0, true);
+        is("24 behind 27", x.ask(0), 271);
+        is("24 behind 27, left", x.ask(1), 3);
+        x.clear();
+        x.seen(48, 5, false);
+        x.seen(50, 2, false);
+        is("24 behind the last sitting", x.ask(0), 601);
+        is("24 behind the last sitting, left", x.ask(1), 20);
         is("24 none fits", fitsNone(x).ask(0), NONE);
         is("24 none fits, left", x.ask(1), NONE);
         is("24 outside before none", x.ask(2), OUTSIDE);
@@ -798,8 +810,39 @@ public final class PromisesTest {
         is("27 what below", x.season(0, 1, -1), OUTSIDE);
         is("27 what above", x.season(0, 1, 3), OUTSIDE);
         is("27 far out", x.season(MIN, MAX, MIN), OUTSIDE);
+        seasonDraws27();
         days(x, 99);
         is("27 no evening behind the last", x.season(0, 99, 2), 99);
+    }
+
+    private static void seasonDraws27() {
+        BenchMemories x = new BenchMemories();
+        // seed 27 draws 2099: D, lot 6, z 32; seed 21 draws 1649: B, lot 6, z 25
+        is("27 he confesses", x.season(27, 1, 0), 5);
+        is("27 he does not confess", x.season(21, 1, 0), 4);
+        // seed 302 draws 22724: E, lot 0, z 355; then 412: E, lot 3: he goes to 5, and sits
+        x.forget(4);
+        x.lay(8, 5, 9);
+        is("27 no way: nothing to be left nor got", x.season(302, 2, 1), 1);
+        x.way(4, 5, true);
+        is("27 he goes to 5, and gets it", x.season(302, 2, 1), 0);
+        is("27 nothing is done", x.told(44), 4);
+        // seed 8952 draws 16104: A, lot 5, z 251; then 28208: A, lot 6, z 440
+        BenchMemories y = new BenchMemories();
+        y.forget(0);
+        is("27 not together: nothing to be confessed", y.season(8952, 2, 0), 5);
+        y.stand(0, 3);
+        is("27 he changes with D, and confesses", y.season(8952, 2, 0), 6);
+        is("27 he changes with D", y.season(8952, 1, 0), 5);
+        // seed 356 draws 26774: G, lot 2, z 418; then 42014: G, lot 3: he goes to 8, and sits
+        y.forget(6);
+        y.way(6, 8, true);
+        y.lay(9, 8, 1);
+        is("27 lot 2 is a way too", y.season(356, 2, 1), 0);
+        // seed 122 draws 9224: A, lot 1, z 144; then 36504: A, lot 3: he goes to 4, and sits
+        y.lay(10, 4, 1);
+        y.way(3, 4, true);
+        is("27 lot 1 is a way too", y.season(122, 2, 1), 1);
     }
 
     private static void image28() {
