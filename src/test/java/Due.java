@@ -16,6 +16,10 @@ final class Due {
         }
     }
 
+    int answers() {
+        return answers;
+    }
+
     void holds(String claim, boolean truth) {
         is(claim, truth ? 1 : 0, 1);
     }

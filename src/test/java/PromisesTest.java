@@ -46,29 +46,6 @@ public final class PromisesTest {
         due.is(call, got, want);
     }
 
-    private static BenchMemories saying(BenchMemories x, String signs) {
-        for (char sign : signs.toCharArray()) {
-            x.say(sign);
-        }
-        return x;
-    }
-
-    private static BenchMemories saying(String signs) {
-        return saying(new BenchMemories(), signs);
-    }
-
-    /** Says another text in the place of what stood there. */
-    private static BenchMemories anew(BenchMemories x, String signs) {
-        x.wipe();
-        return saying(x, signs);
-    }
-
-    private static void ways(BenchMemories x, int... ends) {
-        for (int i = 0; i + 1 < ends.length; i += 2) {
-            x.way(ends[i], ends[i + 1], true);
-        }
-    }
-
     private static void constants() {
         is("UNKNOWN", BenchMemories.UNKNOWN, UNKNOWN);
         is("OUTSIDE", BenchMemories.OUTSIDE, OUTSIDE);
@@ -123,11 +100,7 @@ public final class PromisesTest {
         is("2 both one, no way", x.way(5, 5, false), UNKNOWN);
         is("2 far out", x.way(MIN, MAX, true), UNKNOWN);
         is("2 refused changes nothing", x.told(15), 1 << 9);
-        for (int one = 0; one < 10; one++) {
-            for (int other = one + 1; other < 10; other++) {
-                x.way(one, other, true);
-            }
-        }
+        Gardens.everyWay(x);
         is("2 all", x.way(0, 1, true), 45);
     }
 
@@ -232,19 +205,19 @@ public final class PromisesTest {
     private static void wipe8() {
         BenchMemories x = new BenchMemories();
         is("8 empty", x.wipe(), 0);
-        saying(x, "A!I");
+        Gardens.saying(x, "A!I");
         is("8 three", x.wipe(), 3);
         is("8 gone", x.wipe(), 0);
         is("8 no fault", x.fault(), NONE);
         is("8 not done", x.told(100), 0);
-        saying(x, "B!");
+        Gardens.saying(x, "B!");
         is("8 anew", x.done(), 1);
         is("8 what is said anew counts", x.told(101), NONE);
         is("8 what was wiped does not", x.told(100), 0);
     }
 
     private static void fault(String signs, int want) {
-        is("9 fault of " + signs, saying(signs).fault(), want);
+        is("9 fault of " + signs, Gardens.saying(signs).fault(), want);
     }
 
     private static void fault9() {
@@ -282,7 +255,7 @@ public final class PromisesTest {
         fault("#12", 2);
         fault("A_I_", 2);
         fault("AxB!", 3);
-        BenchMemories x = saying("A");
+        BenchMemories x = Gardens.saying("A");
         is("9 more must come", x.fault(), 1);
         x.say('1');
         is("9 it came", x.fault(), NONE);
@@ -291,7 +264,7 @@ public final class PromisesTest {
     }
 
     private static void judged(BenchMemories x, String signs, int act, int why, int sat) {
-        anew(x, signs);
+        Gardens.anew(x, signs);
         is("10 judge(0) of " + signs, x.judge(0), act);
         is("10 judge(1) of " + signs, x.judge(1), why);
         is("10 judge(2) of " + signs, x.judge(2), sat);
@@ -299,7 +272,7 @@ public final class PromisesTest {
 
     private static void judge10() {
         BenchMemories x = new BenchMemories();
-        ways(x, 0, 1);
+        Gardens.ways(x, 0, 1);
         judged(x, "", NONE, NONE, 0);
         judged(x, "A_A_A1#2.", NONE, NONE, 2);
         judged(x, "A1.A2B!", 2, 1, STATE);
@@ -317,7 +290,7 @@ public final class PromisesTest {
 
     private static void judgeReasons10() {
         BenchMemories x = new BenchMemories();
-        ways(x, 0, 1);
+        Gardens.ways(x, 0, 1);
         judged(x, "A0", 0, 1, STATE);
         judged(x, "A1A1", 1, 1, STATE);
         judged(x, "A1A0A1", NONE, NONE, 0);
@@ -340,51 +313,40 @@ public final class PromisesTest {
         x.lay(8, 3, 9);
         judged(x, "D!D_D_D_D_", NONE, NONE, 4);
         judged(x, "D!D_D!D_", 3, 3, STATE);
-        days(x, 98);
+        Gardens.days(x, 98);
         judged(x, ".", NONE, NONE, 0);
         judged(x, "..", 1, 5, STATE);
-        days(x, 1);
+        Gardens.days(x, 1);
         is("10 the last day", x.told(2), 99);
         judged(x, ".", 0, 5, STATE);
         judged(x, "A_", NONE, NONE, 1);
     }
 
-    private static void days(BenchMemories x, int count) {
-        x.wipe();
-        for (int day = 0; day < count; day++) {
-            if (x.told(0) == 60) {
-                x.done();
-            }
-            x.say('.');
-        }
-        x.done();
-    }
-
     private static void refusedAlike(String call, BenchMemories x, java.util.function.IntSupplier answer) {
-        anew(x, "A");
+        Gardens.anew(x, "A");
         is(call + ", a fault", answer.getAsInt(), NO);
-        anew(x, "A0A");
+        Gardens.anew(x, "A0A");
         is(call + ", a fault behind an act that can not be", answer.getAsInt(), NO);
-        anew(x, "A0");
+        Gardens.anew(x, "A0");
         is(call + ", an act that can not be", answer.getAsInt(), STATE);
         x.wipe();
     }
 
     private static void behind11() {
         BenchMemories x = new BenchMemories();
-        ways(x, 0, 1, 1, 9);
+        Gardens.ways(x, 0, 1, 1, 9);
         is("11 bench", x.behind(7, 0), 7);
         is("11 memory", x.behind(7, 1), 7);
-        saying(x, "A1AxBA9B!");
+        Gardens.saying(x, "A1AxBA9B!");
         is("11 bench behind", x.behind(0, 0), 9);
         is("11 memory behind", x.behind(0, 1), 1);
         is("11 none behind", x.behind(1, 1), NONE);
         is("11 nothing is done", x.told(40), 0);
-        anew(x, "A1A_B_");
+        Gardens.anew(x, "A1A_B_");
         is("11 left", x.behind(0, 1), NONE);
         is("11 got", x.behind(1, 1), 0);
         refusedAlike("11", x, () -> x.behind(0, 0));
-        anew(x, "A");
+        Gardens.anew(x, "A");
         is("11 below", x.behind(-1, 5), UNKNOWN);
         is("11 above", x.behind(8, 0), UNKNOWN);
         is("11 what below", x.behind(0, -1), OUTSIDE);
@@ -400,17 +362,17 @@ public final class PromisesTest {
         is("12 fresh", x.lies(3, 1), 2);
         is("12 none", x.lies(0, 0), NONE);
         is("12 none is not fresh", x.lies(0, 1), NONE);
-        saying(x, ".A_");
+        Gardens.saying(x, ".A_");
         is("12 less fresh", x.lies(3, 1), 1);
         is("12 gone", x.lies(9, 0), NONE);
         is("12 gone is not fresh", x.lies(9, 1), NONE);
         is("12 left", x.lies(0, 0), 0);
         is("12 left, fresh", x.lies(0, 1), 9);
         is("12 nothing is done", x.told(39), 1);
-        anew(x, "A_A_");
+        Gardens.anew(x, "A_A_");
         is("12 taken", x.lies(0, 0), NONE);
         refusedAlike("12", x, () -> x.lies(0, 0));
-        anew(x, "A");
+        Gardens.anew(x, "A");
         is("12 below", x.lies(-1, 5), UNKNOWN);
         is("12 above", x.lies(10, 0), UNKNOWN);
         is("12 what below", x.lies(9, -1), OUTSIDE);
@@ -426,23 +388,23 @@ public final class PromisesTest {
         is("13 who", x.hands(0, 1), 0);
         is("13 on a bench nobody", x.hands(8, 1), NONE);
         is("13 nowhere nobody", x.hands(9, 1), NONE);
-        saying(x, "A_");
+        Gardens.saying(x, "A_");
         is("13 sat for", x.hands(8, 0), 1);
         is("13 sat for, who", x.hands(8, 1), 0);
         is("13 left", x.hands(0, 0), 0);
         is("13 left, who", x.hands(0, 1), NONE);
-        saying(x, "AxBAxBAxBB_");
+        Gardens.saying(x, "AxBAxBAxBB_");
         is("13 changed", x.hands(8, 0), 4);
         is("13 changed too", x.hands(1, 0), 3);
         is("13 sat for in the end", x.hands(0, 0), 1);
         is("13 who in the end", x.hands(0, 1), 1);
-        is("13 confessed counts still", saying(x, "B!").hands(0, 0), 1);
+        is("13 confessed counts still", Gardens.saying(x, "B!").hands(0, 0), 1);
         is("13 confessed, who", x.hands(0, 1), NONE);
-        anew(x, "B!AxB");
+        Gardens.anew(x, "B!AxB");
         is("13 given alone", x.hands(0, 0), 1);
         is("13 of the text alone", x.hands(8, 0), 0);
         refusedAlike("13", x, () -> x.hands(0, 0));
-        anew(x, "A");
+        Gardens.anew(x, "A");
         is("13 below", x.hands(-1, 5), UNKNOWN);
         is("13 above", x.hands(12, 0), UNKNOWN);
         is("13 what below", x.hands(11, -1), OUTSIDE);
@@ -454,28 +416,28 @@ public final class PromisesTest {
         BenchMemories x = new BenchMemories();
         x.stand(6, 7);
         is("14 none", x.most(), NONE);
-        is("14 left is no hand", saying(x, "A_").most(), NONE);
-        is("14 got", saying(x, "A_").most(), 0);
-        anew(x, "GxH");
+        is("14 left is no hand", Gardens.saying(x, "A_").most(), NONE);
+        is("14 got", Gardens.saying(x, "A_").most(), 0);
+        Gardens.anew(x, "GxH");
         is("14 the least of several", x.most(), 6);
-        is("14 most", saying(x, "G_H_").most(), 7);
-        is("14 first of two", anew(x, "H_H_G_G_G_G_").most(), 6);
+        is("14 most", Gardens.saying(x, "G_H_").most(), 7);
+        is("14 first of two", Gardens.anew(x, "H_H_G_G_G_G_").most(), 6);
         refusedAlike("14", x, x::most);
         is("14 empty again", x.most(), NONE);
     }
 
     private static void done15() {
         BenchMemories x = new BenchMemories();
-        ways(x, 0, 1, 1, 2);
+        Gardens.ways(x, 0, 1, 1, 2);
         is("15 no acts", x.done(), 0);
-        saying(x, "A1A_B_BxB");
+        Gardens.saying(x, "A1A_B_BxB");
         is("15 can not be", x.done(), STATE);
         is("15 the pad is kept", x.told(0), 9);
         is("15 nothing is done", x.told(40), 0);
-        anew(x, "A1A_B_A2#4.B!B!");
+        Gardens.anew(x, "A1A_B_A2#4.B!B!");
         is("15 the last can not be", x.done(), STATE);
         is("15 nothing at all", x.told(1), 0);
-        anew(x, "A1A_B_A2#4.B!");
+        Gardens.anew(x, "A1A_B_A2#4.B!");
         is("15 acts", x.done(), 7);
         is("15 the pad is empty", x.told(0), 0);
         is("15 where", x.told(40), 2);
@@ -487,23 +449,23 @@ public final class PromisesTest {
         is("15 day", x.told(2), 1);
         is("15 ways stay", x.told(11), 5);
         x.seen(3, 3, true);
-        saying(x, "A");
+        Gardens.saying(x, "A");
         is("15 a fault", x.done(), NO);
         is("15 the pad is kept, faulty", x.told(0), 1);
-        anew(x, "#4#0#9");
+        Gardens.anew(x, "#4#0#9");
         is("15 cushions only", x.done(), 3);
         is("15 cushions now", x.told(1), 1 + 512);
         is("15 sights stay", x.told(3), 1);
         x.lay(5, 0, 1);
         x.lay(6, 9, 2);
-        saying(x, ".").done();
+        Gardens.saying(x, ".").done();
         is("15 gone toward evening", x.told(105), NONE);
         is("15 not yet gone", x.told(39), 1);
     }
 
     private static void steps16() {
         BenchMemories x = new BenchMemories();
-        ways(x, 0, 1, 1, 2, 2, 3, 3, 4, 4, 5, 5, 6, 6, 7, 7, 8, 8, 9);
+        Gardens.ways(x, 0, 1, 1, 2, 2, 3, 3, 4, 4, 5, 5, 6, 6, 7, 7, 8, 8, 9);
         is("16 itself", x.steps(4, 4), 0);
         is("16 all along", x.steps(0, 9), 9);
         is("16 back", x.steps(9, 0), 9);
@@ -524,7 +486,7 @@ public final class PromisesTest {
 
     private static void get17() {
         BenchMemories x = new BenchMemories();
-        ways(x, 0, 1, 1, 2);
+        Gardens.ways(x, 0, 1, 1, 2);
         x.lay(8, 2, 1);
         x.lay(9, 0, 9);
         is("17 two steps and sitting", x.get(0, 8), 3);
@@ -533,11 +495,11 @@ public final class PromisesTest {
         is("17 no way", x.get(7, 8), NONE);
         is("17 with a one", x.get(0, 1), STATE);
         is("17 nowhere", x.get(0, 11), STATE);
-        saying(x, "#2#1").done();
+        Gardens.saying(x, "#2#1").done();
         is("17 a cushion", x.get(0, 8), NONE);
         is("17 a cushion, here", x.get(2, 8), NONE);
         is("17 a cushion by the way does not matter", x.get(2, 9), 3);
-        saying(x, "A1");
+        Gardens.saying(x, "A1");
         is("17 as things are now", x.get(0, 9), 1);
         is("17 one below", x.get(-1, 0), UNKNOWN);
         is("17 one above", x.get(8, 0), UNKNOWN);
@@ -550,7 +512,7 @@ public final class PromisesTest {
         BenchMemories x = new BenchMemories();
         is("18 alone", x.round(9, 512), 0);
         is("18 no way", x.round(0, 2), NONE);
-        ways(x, 0, 1, 1, 2, 2, 3, 3, 4, 4, 5, 5, 6, 6, 7, 7, 8, 8, 9);
+        Gardens.ways(x, 0, 1, 1, 2, 2, 3, 3, 4, 4, 5, 5, 6, 6, 7, 7, 8, 8, 9);
         is("18 there and back", x.round(0, 1023), 18);
         is("18 both sides", x.round(4, 1 + 512), 18);
         is("18 one side", x.round(4, 1), 8);
@@ -560,7 +522,7 @@ public final class PromisesTest {
         is("18 not round", x.round(0, 6), 4);
         is("18 none told", x.round(3, 0), 0);
         BenchMemories star = new BenchMemories();
-        ways(star, 5, 0, 5, 1, 5, 2, 5, 9);
+        Gardens.ways(star, 5, 0, 5, 1, 5, 2, 5, 9);
         is("18 star from its middle", star.round(5, 1 + 2 + 4 + 512), 8);
         is("18 star from its end", star.round(0, 2 + 4), 6);
         is("18 star, one not to be reached", star.round(5, 1 + 8), NONE);
@@ -576,21 +538,17 @@ public final class PromisesTest {
         BenchMemories x = new BenchMemories();
         is("19 none", x.walk(4, 0), 0);
         is("19 none, which", x.walk(4, 1), 0);
-        for (int one = 0; one < 10; one++) {
-            for (int other = one + 1; other < 10; other++) {
-                x.way(one, other, true);
-            }
-        }
+        Gardens.everyWay(x);
         is("19 all", x.walk(0, 0), 9);
         is("19 all, which", x.walk(0, 1), 123456789);
         is("19 from the last", x.walk(9, 1), 12345678);
         BenchMemories y = new BenchMemories();
-        ways(y, 5, 1, 5, 2, 2, 3, 5, 4, 4, 6);
+        Gardens.ways(y, 5, 1, 5, 2, 2, 3, 5, 4, 4, 6);
         is("19 not the first way, but the longest", y.walk(5, 0), 2);
         is("19 the first of the longest", y.walk(5, 1), 23);
         is("19 across", y.walk(3, 0), 4);
         is("19 across, which", y.walk(3, 1), 2546);
-        ways(y, 0, 8);
+        Gardens.ways(y, 0, 8);
         is("19 to bench 0", y.walk(8, 1), 0);
         is("19 to bench 0, steps", y.walk(8, 0), 1);
         is("19 below", x.walk(-1, 5), UNKNOWN);
@@ -799,9 +757,9 @@ public final class PromisesTest {
         x.lay(8, 0, 1);
         is("27 he gets it", x.season(2, 1, 1), 0);
         is("27 it fades in the evening", x.season(0, 2, 0), 5);
-        saying(x, "#0").done();
+        Gardens.saying(x, "#0").done();
         is("27 a cushion", x.season(2, 1, 1), 1);
-        saying(x, "A");
+        Gardens.saying(x, "A");
         is("27 the pad does not matter", x.season(9999, 99, 2) >= 0 ? 1 : 0, 1);
         is("27 seed below", x.season(-1, 1, 0), OUTSIDE);
         is("27 seed above", x.season(10000, 1, 0), OUTSIDE);
@@ -811,7 +769,7 @@ public final class PromisesTest {
         is("27 what above", x.season(0, 1, 3), OUTSIDE);
         is("27 far out", x.season(MIN, MAX, MIN), OUTSIDE);
         seasonDraws27();
-        days(x, 99);
+        Gardens.days(x, 99);
         is("27 no evening behind the last", x.season(0, 99, 2), 99);
     }
 
@@ -869,14 +827,14 @@ public final class PromisesTest {
         is("29 below", x.restore(-1), OUTSIDE);
         is("29 above", x.restore(2), OUTSIDE);
         is("29 far out", x.restore(MAX), OUTSIDE);
-        ways(x, 0, 1);
+        Gardens.ways(x, 0, 1);
         x.stand(0, 4);
         x.lay(9, 3, 5);
         x.seen(0, 5, true);
-        saying(x, "#2.").done();
+        Gardens.saying(x, "#2.").done();
         x.image(1);
         is("29 not kept", x.restore(0), STATE);
-        ways(x, 2, 3);
+        Gardens.ways(x, 2, 3);
         x.way(0, 1, false);
         x.stand(0, 7);
         x.lay(9, 6, 1);
@@ -884,8 +842,8 @@ public final class PromisesTest {
         x.clear();
         x.seen(0, 0, true);
         x.seen(1, 0, true);
-        saying(x, "#2#5...").done();
-        saying(x, "AA");
+        Gardens.saying(x, "#2#5...").done();
+        Gardens.saying(x, "AA");
         is("29 restored", x.restore(1), 1);
         is("29 way back", x.told(10), 2);
         is("29 way gone", x.told(12), 0);
@@ -906,13 +864,13 @@ public final class PromisesTest {
 
     private static void told30() {
         BenchMemories x = new BenchMemories();
-        ways(x, 9, 8, 9, 0);
+        Gardens.ways(x, 9, 8, 9, 0);
         x.lay(11, 9, 7);
         x.forget(7);
         x.stand(7, 0);
         x.seen(1, 1, true);
-        saying(x, "#0#9.").done();
-        saying(x, "xyz");
+        Gardens.saying(x, "#0#9.").done();
+        Gardens.saying(x, "xyz");
         is("30 signs", x.told(0), 3);
         is("30 cushions", x.told(1), 513);
         is("30 day", x.told(2), 1);
